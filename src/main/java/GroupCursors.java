@@ -27,6 +27,8 @@ public final class GroupCursors {
     private static final int HELD = 1;
     private static final int ENDED = 2;
 
+    private static final long SIGN_BIT = 1L << 63;
+
     private static final int NO_SEGMENT = -1;
     private static final int NOT_THERE = -1;
     private static final int ALL_GROUPS = -1;
@@ -699,7 +701,7 @@ public final class GroupCursors {
                 return ~stock.sort[object];
             }
             // with its sign bit turned, a number without sign compares as one with a sign
-            return mix(stock.key[object], seed) ^ Long.MIN_VALUE;
+            return mix(stock.key[object], seed) ^ SIGN_BIT;
         }
 
         private static long mix(long key, long seed) {

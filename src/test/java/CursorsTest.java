@@ -88,6 +88,7 @@ public final class CursorsTest {
             int order = kind;
             int reader = x.cursor(0, kind, -9, 1, 0, 5);
             DUE.is("take 50 of 60", 50, () -> x.take(reader, 50));
+            DUE.isOutOfBounds("page 50 of a full page", () -> x.page(50));
             DUE.is("page 0 by kind " + kind, x.hit(0, order, -9, 0), () -> x.page(0));
             DUE.is("page 49 by kind " + kind, x.hit(0, order, -9, 49), () -> x.page(49));
             DUE.is("take 10 of 60", 10, () -> x.take(reader, 50));
@@ -155,6 +156,8 @@ public final class CursorsTest {
         x.close(5);
         DUE.is("an ended one makes no room", -4, () -> x.cursor(0, 0, 0, 1, 0, 1));
         DUE.is("told(8)", 60, () -> x.told(8));
+        DUE.isOutOfBounds("left(60)", () -> x.left(60));
+        DUE.isOutOfBounds("next(60)", () -> x.next(60));
         for (int i = 0; i < 60; i++) {
             x.close(i);
         }

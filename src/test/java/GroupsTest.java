@@ -108,6 +108,7 @@ public final class GroupsTest {
         DUE.isOutOfBounds("group: k -1", () -> x.group(0, 0, 0, -1));
         DUE.isOutOfBounds("group: k 3", () -> x.group(0, 0, 0, 3));
         DUE.isOutOfBounds("group: k 3 and kind 3", () -> x.group(0, 3, 0, 3));
+        DUE.isOutOfBounds("group: k -1 and kind 3", () -> x.group(0, 3, 0, -1));
         DUE.isWrongArgument("group: kind 3", () -> x.group(0, 3, 0, 2));
         DUE.isWrongArgument("group: kind -1", () -> x.group(0, -1, 0, 0));
         DUE.isOutOfBounds("counted: view -1", () -> x.counted(-1, 0, 0, 0));

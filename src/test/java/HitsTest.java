@@ -75,6 +75,7 @@ public final class HitsTest {
         DUE.isWrongArgument("kind -1", () -> x.hit(0, -1, 0, 0));
         DUE.isWrongArgument("kind 3", () -> x.hit(0, 3, 0, 0));
         DUE.isOutOfBounds("hit 1 and kind 3", () -> x.hit(0, 3, 0, 1));
+        DUE.isOutOfBounds("hit -1 and kind 3", () -> x.hit(0, 3, 0, -1));
         DUE.isOutOfBounds("view 1 and kind 3", () -> x.hit(1, 3, 0, 0));
         x.letGo(0);
         DUE.isOutOfBounds("hit 0 of an ended view and kind 3", () -> x.hit(0, 3, 0, 0));
@@ -104,6 +105,7 @@ public final class HitsTest {
         DUE.isOutOfBounds("object -1", () -> x.place(0, 0, 0, -1));
         DUE.isOutOfBounds("object 1", () -> x.place(0, 0, 0, 1));
         DUE.isOutOfBounds("object 1 and kind 3", () -> x.place(0, 3, 0, 1));
+        DUE.isOutOfBounds("object -1 and kind 3", () -> x.place(0, 3, 0, -1));
         DUE.isOutOfBounds("view 1 and kind 3", () -> x.place(1, 3, 0, 0));
         DUE.isWrongArgument("kind 3", () -> x.place(0, 3, 0, 0));
         DUE.isWrongArgument("kind -1", () -> x.place(0, -1, 0, 0));

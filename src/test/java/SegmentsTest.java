@@ -66,7 +66,12 @@ public final class SegmentsTest {
     private static void commitIsFullAt40() {
         GroupCursors x = withAllSegments();
         DUE.is("told(2) at 40", 40, () -> x.told(2));
+        DUE.isOutOfBounds("segment(40, 0)", () -> x.segment(40, 0));
         DUE.is("commit of nothing at 40", 0, x::commit);
+        DUE.is("view at 40", 0, x::view);
+        DUE.is("it has all", 40, () -> x.size(0));
+        DUE.is("it sees the last", 1, () -> x.segment(39, 2));
+        DUE.is("letGo at 40", 0, () -> x.letGo(0));
         x.add(1, 1, 1);
         DUE.is("commit at 40", -4, x::commit);
         DUE.is("the new one stays new", 1, () -> x.told(1));
