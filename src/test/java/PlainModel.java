@@ -16,7 +16,6 @@ import java.util.stream.IntStream;
  */
 public final class PlainModel {
     private static final int FULL = -4;
-    private static final BigInteger ROUND = BigInteger.ONE.shiftLeft(64);
 
     private static final class Obj {
         long group;
@@ -54,25 +53,10 @@ public final class PlainModel {
     private int segments = 0;
     private long now = 0;
 
-    static BigInteger mix(long key, long seed) {
-        BigInteger z = whole(key).xor(whole(seed).multiply(hex("9E3779B97F4A7C15")).mod(ROUND));
-        z = z.xor(z.shiftRight(30)).multiply(hex("BF58476D1CE4E5B9")).mod(ROUND);
-        z = z.xor(z.shiftRight(27)).multiply(hex("94D049BB133111EB")).mod(ROUND);
-        return z.xor(z.shiftRight(31));
-    }
-
-    private static BigInteger whole(long x) {
-        return BigInteger.valueOf(x).mod(ROUND);
-    }
-
-    private static BigInteger hex(String x) {
-        return new BigInteger(x, 16);
-    }
-
     /** The numbers below n by the mix of their keys, then the keys, as one text. */
     static String sorted(int n, IntToLongFunction key, long seed) {
         return IntStream.range(0, n).boxed()
-            .sorted(Comparator.comparing((Integer i) -> mix(key.applyAsLong(i), seed))
+            .sorted(Comparator.comparing((Integer i) -> Mix.of(key.applyAsLong(i), seed))
                 .thenComparing(i -> key.applyAsLong(i)).thenComparing(i -> i))
             .map(i -> Integer.toString(i)).collect(Collectors.joining(" "));
     }
@@ -142,7 +126,7 @@ public final class PlainModel {
         } else if (kind == 1) {
             first = Comparator.comparing((Integer i) -> objects.get(i).sort).reversed();
         } else {
-            first = Comparator.comparing(i -> mix(objects.get(i).key, seed));
+            first = Comparator.comparing(i -> Mix.of(objects.get(i).key, seed));
         }
         List<Integer> list = new ArrayList<>(has(view));
         list.sort(first.thenComparing(i -> objects.get(i).key).thenComparing(i -> i));
@@ -317,7 +301,7 @@ public final class PlainModel {
         open(view);
         BigInteger m = BigInteger.valueOf(slices);
         List<Integer> of = hits(view, kind, seed).stream()
-            .filter(i -> mix(objects.get(i).key, 0).mod(m).intValue() == slice).toList();
+            .filter(i -> Mix.of(objects.get(i).key, 0).mod(m).intValue() == slice).toList();
         return read(view, of, keep);
     }
 
