@@ -15,6 +15,12 @@ public final class CursorsTest {
         cursorIsFullAt60();
         takeRefuses();
         pageRefuses();
+        takeAtTheEdgesOfAPage();
+        takeGivesTheNextAndNoMore();
+        aShorterPageHidesTheOneBefore();
+        thePageIsOneForAllCursors();
+        thePageOutlivesItsCursorAndView();
+        takeAtTheEdgesOfWhatIsLeft();
         DUE.end();
     }
 
@@ -192,5 +198,84 @@ public final class CursorsTest {
         DUE.isOutOfBounds("page(50)", () -> x.page(50));
         DUE.isOutOfBounds("page(most)", () -> x.page(Integer.MAX_VALUE));
         DUE.is("page(1)", 2, () -> x.page(1));
+    }
+
+    // "the next n (1 .. 50) of its HITS, or as many as are left"
+    private static void takeAtTheEdgesOfAPage() {
+        for (int hits : new int[] {49, 50, 51}) {
+            GroupCursors x = withObjects(hits);
+            int reader = x.cursor(0, 0, 0, 1, 0, 1);
+            DUE.is("take(50) of " + hits, Math.min(hits, 50), () -> x.take(reader, 50));
+            DUE.is("told(11)", Math.min(hits, 50), () -> x.told(11));
+            DUE.is("left", Math.max(hits - 50, 0), () -> x.left(reader));
+            DUE.is("the last of the page", x.hit(0, 0, 0, Math.min(hits, 50) - 1), () -> x.page(Math.min(hits, 50) - 1));
+            DUE.isOutOfBounds("beyond the page", () -> x.page(Math.min(hits, 50)));
+        }
+    }
+
+    private static void takeGivesTheNextAndNoMore() {
+        GroupCursors x = withObjects(7);
+        int one = x.cursor(0, 0, 0, 1, 0, 1);
+        int other = x.cursor(0, 0, 0, 1, 0, 1);
+        DUE.are("each once", "0 5 2 4 1 6 3", 7, i -> {
+            x.take(one, 1);
+            return x.page(0);
+        });
+        DUE.is("another cursor has its own place", 7, () -> x.left(other));
+        DUE.is("take(7) of 7", 7, () -> x.take(other, 7));
+        DUE.is("its last", 3, () -> x.page(6));
+    }
+
+    // "these are the PAGE then"
+    private static void aShorterPageHidesTheOneBefore() {
+        GroupCursors x = withObjects(7);
+        int reader = x.cursor(0, 0, 0, 1, 0, 1);
+        x.take(reader, 4);
+        DUE.is("told(11)", 4, () -> x.told(11));
+        x.take(reader, 2);
+        DUE.is("told(11)", 2, () -> x.told(11));
+        DUE.are("the page", "1 6 throws.IndexOutOfBoundsException", 3, x::page);
+        x.take(reader, 2);
+        DUE.are("the page", "3 throws.IndexOutOfBoundsException", 2, x::page);
+        x.take(reader, 2);
+        DUE.is("told(11)", 0, () -> x.told(11));
+        DUE.isOutOfBounds("an empty page", () -> x.page(0));
+    }
+
+    private static void thePageIsOneForAllCursors() {
+        GroupCursors x = withObjects(7);
+        int up = x.cursor(0, 0, 0, 1, 0, 1);
+        int down = x.cursor(0, 1, 0, 1, 0, 1);
+        int iterator = x.iterator(0, 0, 0, -1);
+        x.take(up, 2);
+        x.take(down, 1);
+        DUE.are("the page is the last one's", "3 throws.IndexOutOfBoundsException", 2, x::page);
+        x.next(iterator);
+        DUE.is("an iterator has no page", 3, () -> x.page(0));
+    }
+
+    private static void thePageOutlivesItsCursorAndView() {
+        GroupCursors x = withObjects(3);
+        int reader = x.cursor(0, 0, 0, 1, 0, 1);
+        x.take(reader, 3);
+        x.letGo(0);
+        x.close(reader);
+        x.drop(0);
+        x.tick(10000);
+        DUE.is("the view has ended", 2, () -> x.state(0));
+        DUE.is("take of it", -1, () -> x.take(reader, 1));
+        DUE.are("the page stays", "0 2 1 throws.IndexOutOfBoundsException", 4, x::page);
+    }
+
+    private static void takeAtTheEdgesOfWhatIsLeft() {
+        for (int n : new int[] {2, 3, 4}) {
+            GroupCursors x = withObjects(3);
+            int reader = x.cursor(0, 0, 0, 1, 0, 1);
+            DUE.is("take(" + n + ") of 3", Math.min(n, 3), () -> x.take(reader, n));
+            DUE.is("left", 3 - Math.min(n, 3), () -> x.left(reader));
+            DUE.is("take again", 3 - Math.min(n, 3), () -> x.take(reader, n));
+            DUE.is("take with none left", 0, () -> x.take(reader, n));
+            DUE.is("it goes on", 0, () -> x.left(reader));
+        }
     }
 }

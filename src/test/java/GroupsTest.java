@@ -9,6 +9,8 @@ public final class GroupsTest {
         threeHundredGroups();
         groupsRefuse();
         bestRefusesLast();
+        oneGroupOfThreeHundred();
+        groupsOfNothing();
         DUE.end();
     }
 
@@ -128,5 +130,30 @@ public final class GroupsTest {
         DUE.isOutOfBounds("best: j -1", () -> x.best(0, 0, 0, 0, -1));
         DUE.isOutOfBounds("best: j 2", () -> x.best(0, 0, 0, 0, 2));
         DUE.isOutOfBounds("best: j most", () -> x.best(0, 0, 0, 0, Integer.MAX_VALUE));
+    }
+
+    private static void oneGroupOfThreeHundred() {
+        GroupCursors x = new GroupCursors();
+        for (int i = 0; i < 300; i++) {
+            x.add(-1, i, -i);
+        }
+        x.commit();
+        x.view();
+        DUE.is("groups(0)", 1, () -> x.groups(0));
+        DUE.are("the only group", "-1 throws.IndexOutOfBoundsException", 2, k -> x.group(0, 1, 0, k));
+        DUE.is("counted", 300, () -> x.counted(0, 1, 0, 0));
+        DUE.is("its first", 0, () -> x.best(0, 1, 0, 0, 0));
+        DUE.is("its last", 299, () -> x.best(0, 1, 0, 0, 299));
+        DUE.isOutOfBounds("beyond its last", () -> x.best(0, 1, 0, 0, 300));
+    }
+
+    private static void groupsOfNothing() {
+        GroupCursors x = new GroupCursors();
+        x.view();
+        DUE.is("groups of an empty view", 0, () -> x.groups(0));
+        DUE.isOutOfBounds("group 0 of an empty view", () -> x.group(0, 0, 0, 0));
+        DUE.isOutOfBounds("counted 0 of an empty view", () -> x.counted(0, 0, 0, 0));
+        DUE.isOutOfBounds("best 0 0 of an empty view", () -> x.best(0, 0, 0, 0, 0));
+        DUE.isOutOfBounds("group 0 of an empty view and kind 3", () -> x.group(0, 3, 0, 0));
     }
 }

@@ -10,6 +10,8 @@ public final class IteratorsTest {
         iteratorRefuses();
         iteratorIsFullAt60();
         nextRefuses();
+        iteratesOverThreeHundred();
+        iteratorsGoOnApart();
         DUE.end();
     }
 
@@ -125,5 +127,38 @@ public final class IteratorsTest {
         x.next(1);
         x.close(1);
         DUE.isNoElement("a closed iterator", () -> x.next(1));
+    }
+
+    private static void iteratesOverThreeHundred() {
+        GroupCursors x = new GroupCursors();
+        for (int i = 0; i < 300; i++) {
+            x.add(1, i, -i);
+        }
+        x.commit();
+        x.view();
+        x.iterator(0, 0, 0, -1);
+        x.iterator(0, 1, 0, 0);
+        DUE.are("left", "300 300", 2, x::left);
+        DUE.are("the first of each", "299 0", 2, x::next);
+        x.cursor(0, 0, 0, 1, 0, 1);
+        for (int page = 0; page < 6; page++) {
+            int first = 299 - 50 * page;
+            DUE.is("take 50 of 300", 50, () -> x.take(2, 50));
+            DUE.is("page(0)", first, () -> x.page(0));
+            DUE.is("page(49)", first - 49, () -> x.page(49));
+        }
+        DUE.is("take beyond 300", 0, () -> x.take(2, 50));
+    }
+
+    private static void iteratorsGoOnApart() {
+        GroupCursors x = sample();
+        x.iterator(0, 0, 0, -1);
+        x.iterator(0, 0, 0, -1);
+        x.next(0);
+        x.next(0);
+        DUE.are("each has its own place", "0 1", 2, x::next);
+        x.close(0);
+        DUE.is("the other goes on", 4, () -> x.left(1));
+        DUE.isNoElement("the closed one does not, with some left", () -> x.next(0));
     }
 }

@@ -12,6 +12,11 @@ public final class ReadersTest {
         tickRefuses();
         toldTells();
         toldRefuses();
+        closeOfAnEndedOneFreesNothing();
+        closeFreesWhatItsViewSawLast();
+        tickCountsCursorsOnce();
+        tickOfManyViewsAtOnce();
+        toldOfEachAlone();
         DUE.end();
     }
 
@@ -167,5 +172,115 @@ public final class ReadersTest {
         DUE.isOutOfBounds("told(-1)", () -> x.told(-1));
         DUE.isOutOfBounds("told(12)", () -> x.told(12));
         DUE.isOutOfBounds("told(most)", () -> x.told(Integer.MAX_VALUE));
+    }
+
+    // "A READER ends, if it has not": what has ended frees nothing by a close
+    private static void closeOfAnEndedOneFreesNothing() {
+        GroupCursors x = sample();
+        x.iterator(0, 0, 0, -1);
+        x.letGo(0);
+        for (int i = 0; i < 4; i++) {
+            x.drop(i);
+        }
+        DUE.is("close frees one", 1, () -> x.close(0));
+        DUE.is("close again frees none", 0, () -> x.close(0));
+        DUE.is("freed once", 1, () -> x.told(5));
+        GroupCursors late = sample();
+        late.cursor(0, 0, 0, 1, 0, 1);
+        late.letGo(0);
+        for (int i = 0; i < 4; i++) {
+            late.drop(i);
+        }
+        DUE.is("tick ends it, and frees", 1, () -> late.tick(2));
+        DUE.is("told(5)", 1, () -> late.told(5));
+        DUE.is("close after that frees none", 0, () -> late.close(0));
+    }
+
+    private static void closeFreesWhatItsViewSawLast() {
+        GroupCursors x = sample();
+        x.add(5, 5, 5);
+        x.commit();
+        x.view();
+        x.iterator(1, 0, 0, -1);
+        x.iterator(1, 0, 0, -1);
+        x.merge(9);
+        x.letGo(0);
+        x.letGo(1);
+        DUE.is("one of two readers", 0, () -> x.close(0));
+        DUE.is("the other frees two", 2, () -> x.close(1));
+        GroupCursors open = sample();
+        open.iterator(0, 0, 0, -1);
+        open.merge(9);
+        for (int i = 0; i < 4; i++) {
+            open.drop(i);
+        }
+        DUE.is("close of an open view's reader", 0, () -> open.close(0));
+        DUE.is("kept", 1, () -> open.segment(0, 1));
+        GroupCursors live = sample();
+        live.iterator(0, 0, 0, -1);
+        live.letGo(0);
+        DUE.is("close with a live segment", 0, () -> live.close(0));
+        DUE.is("live", 0, () -> live.segment(0, 1));
+    }
+
+    // "how many CURSORS end by that": not those that have ended, and no iterators
+    private static void tickCountsCursorsOnce() {
+        GroupCursors x = sample();
+        for (int i = 0; i < 4; i++) {
+            x.cursor(0, 0, 0, 1, 0, 1);
+        }
+        x.iterator(0, 0, 0, -1);
+        x.close(1);
+        x.tick(1);
+        x.take(3, 1);
+        DUE.is("two of four", 2, () -> x.tick(1));
+        DUE.is("the one that has taken", 1, () -> x.tick(1));
+        DUE.is("no more", 0, () -> x.tick(10000));
+        DUE.are("left", "-1 -1 -1 -1 4", 5, x::left);
+    }
+
+    private static void tickOfManyViewsAtOnce() {
+        GroupCursors x = sample();
+        x.view();
+        x.cursor(0, 0, 0, 1, 0, 1);
+        x.cursor(1, 0, 0, 1, 0, 2);
+        x.letGo(0);
+        x.letGo(1);
+        for (int i = 0; i < 4; i++) {
+            x.drop(i);
+        }
+        x.tick(2);
+        DUE.are("states", "2 1", 2, x::state);
+        DUE.is("kept by the second", 1, () -> x.segment(0, 1));
+        x.tick(1);
+        DUE.are("states", "2 2", 2, x::state);
+        DUE.is("freed", 2, () -> x.segment(0, 1));
+    }
+
+    /** One step at a time, and after each what told() says of all. */
+    private static void toldOfEachAlone() {
+        GroupCursors x = new GroupCursors();
+        DUE.are("at first", "0 0 0 0 0 0 0 0 0 0 0 0", 12, x::told);
+        x.add(1, 1, 1);
+        DUE.are("add", "1 1 0 0 0 0 0 0 0 0 0 0", 12, x::told);
+        x.add(1, 2, 2);
+        x.drop(1);
+        DUE.are("add and drop", "2 1 0 0 0 0 0 0 0 0 0 0", 12, x::told);
+        x.commit();
+        DUE.are("commit", "2 0 1 1 0 0 0 0 0 0 0 0", 12, x::told);
+        x.view();
+        DUE.are("view", "2 0 1 1 0 0 1 1 0 0 0 0", 12, x::told);
+        x.cursor(0, 0, 0, 1, 0, 3);
+        DUE.are("cursor", "2 0 1 1 0 0 1 1 1 1 0 0", 12, x::told);
+        x.take(0, 9);
+        DUE.are("take", "2 0 1 1 0 0 1 1 1 1 0 1", 12, x::told);
+        x.drop(0);
+        DUE.are("drop", "2 0 1 0 1 0 1 1 1 1 0 1", 12, x::told);
+        x.letGo(0);
+        DUE.are("letGo: held is not ended", "2 0 1 0 1 0 1 1 1 1 0 1", 12, x::told);
+        x.tick(3);
+        DUE.are("tick to the end", "2 0 1 0 1 0 1 1 1 1 3 1", 12, x::told);
+        x.tick(1);
+        DUE.are("tick beyond", "2 0 1 0 0 1 1 0 1 0 4 1", 12, x::told);
     }
 }

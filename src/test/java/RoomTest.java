@@ -18,7 +18,7 @@ public final class RoomTest {
         }
     }
 
-    /** 512 calls: every object, view and reader that there can be, each as large as it can be. */
+    /** 511 calls: every object, view and reader that there can be, each as large as it can be. */
     private static void dearRun() {
         GroupCursors x = new GroupCursors();
         for (int i = 0; i < 300; i++) {
@@ -31,7 +31,7 @@ public final class RoomTest {
         for (int i = 0; i < 60; i++) {
             x.cursor(i % 30, 2, i, 1, 0, 1000);
         }
-        for (int i = 0; i < 61; i++) {
+        for (int i = 0; i < 60; i++) {
             x.take(i % 60, 50);
             x.best(i % 30, i % 3, i, i, 0);
         }

@@ -13,6 +13,15 @@ public final class SegmentsTest {
         segmentTellsStates();
         segmentCountsViews();
         segmentRefusesWhatIsNotThere();
+        commitTakesEachOnce();
+        commitOfOneAndOfAll();
+        mergeTakesThoseWithLessThanN();
+        mergeNeedsTwoOrMore();
+        mergeTakesLiveSegmentsAlone();
+        mergeLeavesWhatIsNew();
+        mergeLeavesWhatViewsSee();
+        mergeOfZeroChangesNothing();
+        mergeAtTheEndsOfN();
         DUE.end();
     }
 
@@ -184,5 +193,123 @@ public final class SegmentsTest {
         DUE.isOutOfBounds("segment(0, -1)", () -> x.segment(0, -1));
         DUE.isOutOfBounds("segment(0, 3)", () -> x.segment(0, 3));
         DUE.isOutOfBounds("segment(least, 0)", () -> x.segment(Integer.MIN_VALUE, 0));
+    }
+
+    // "all are NEW no more": none comes with a second commit, dropped or not
+    private static void commitTakesEachOnce() {
+        GroupCursors x = new GroupCursors();
+        x.add(1, 1, 1);
+        x.add(1, 2, 2);
+        x.drop(0);
+        DUE.is("told(1) before", 1, () -> x.told(1));
+        DUE.is("commit", 1, x::commit);
+        DUE.is("told(1) after", 0, () -> x.told(1));
+        DUE.is("commit again", 0, x::commit);
+        DUE.is("told(2)", 1, () -> x.told(2));
+        x.add(1, 3, 3);
+        DUE.is("commit of the next", 1, x::commit);
+        DUE.are("what segments have", "1 1", 2, s -> x.segment(s, 0));
+    }
+
+    private static void commitOfOneAndOfAll() {
+        GroupCursors one = new GroupCursors();
+        one.add(1, 1, 1);
+        DUE.is("commit of one", 1, one::commit);
+        DUE.is("told(2)", 1, () -> one.told(2));
+        GroupCursors all = new GroupCursors();
+        for (int i = 0; i < 300; i++) {
+            all.add(i, i, i);
+        }
+        for (int i = 0; i < 300; i += 3) {
+            all.drop(i);
+        }
+        DUE.is("commit of 300, a third dropped", 200, all::commit);
+        DUE.is("segment(0, 0)", 200, () -> all.segment(0, 0));
+    }
+
+    // "with less than n such ones": n less 1 is taken, n and n more 1 are not
+    private static void mergeTakesThoseWithLessThanN() {
+        GroupCursors x = withSegments(4, 2, 3, 1, 2);
+        DUE.is("merge(2): 1 alone is less", 0, () -> x.merge(2));
+        DUE.is("merge(3): 2, 1 and 2 are less", 5, () -> x.merge(3));
+        DUE.are("what segments have", "4 0 3 0 0 5", 6, s -> x.segment(s, 0));
+        DUE.is("merge(4): 3 alone is less", 0, () -> x.merge(4));
+        DUE.is("merge(5): 4 and 3 are less", 7, () -> x.merge(5));
+        DUE.are("what segments have", "0 0 0 0 0 5 7", 7, s -> x.segment(s, 0));
+        DUE.is("merge(7): 5 alone is less", 0, () -> x.merge(7));
+        DUE.is("merge(8): 5 and 7 are less", 12, () -> x.merge(8));
+    }
+
+    // "if these SEGMENTS are two or more"
+    private static void mergeNeedsTwoOrMore() {
+        new Twins(DUE, x -> { }).changesNothing("merge of no segment", "0", x -> x.merge(9));
+        new Twins(DUE, x -> {
+            x.add(1, 1, 1);
+            x.commit();
+        }).changesNothing("merge of one segment", "0", x -> x.merge(9));
+        GroupCursors two = withSegments(1, 1);
+        DUE.is("merge of two segments", 2, () -> two.merge(2));
+        DUE.is("merge of what came of it", 0, () -> two.merge(9));
+        GroupCursors three = withSegments(1, 1, 1);
+        DUE.is("merge of three segments", 3, () -> three.merge(2));
+        DUE.are("all are in one", "3 3 3", 3, i -> three.object(i, 3));
+    }
+
+    // "of all LIVE SEGMENTS": a KEPT or a FREED one has less than n, too, but does not count
+    private static void mergeTakesLiveSegmentsAlone() {
+        GroupCursors x = withSegments(1, 1, 1);
+        x.drop(0);
+        x.view();
+        x.drop(1);
+        DUE.are("freed, kept, live", "2 1 0", 3, s -> x.segment(s, 1));
+        DUE.is("merge of one live", 0, () -> x.merge(9));
+        x.add(1, 1, 1);
+        x.commit();
+        DUE.is("merge of two live", 2, () -> x.merge(9));
+        DUE.are("segments of objects", "0 1 4 4", 4, i -> x.object(i, 3));
+    }
+
+    private static void mergeLeavesWhatIsNew() {
+        GroupCursors x = withSegments(1, 1);
+        x.add(1, 1, 1);
+        DUE.is("merge", 2, () -> x.merge(9));
+        DUE.is("in no segment", -1, () -> x.object(2, 3));
+        DUE.is("NEW yet", 1, () -> x.told(1));
+        DUE.is("commit of it", 1, x::commit);
+        DUE.is("it has a segment of its own", 3, () -> x.object(2, 3));
+    }
+
+    private static void mergeLeavesWhatViewsSee() {
+        GroupCursors x = withSegments(1, 1);
+        x.view();
+        DUE.is("merge", 2, () -> x.merge(9));
+        DUE.are("kept, kept, live", "1 1 0", 3, s -> x.segment(s, 1));
+        DUE.are("seen by", "1 1 0", 3, s -> x.segment(s, 2));
+        DUE.is("letGo frees both", 2, () -> x.letGo(0));
+    }
+
+    // "0: nothing changes"
+    private static void mergeOfZeroChangesNothing() {
+        Twins twins = new Twins(DUE, x -> {
+            for (int i = 0; i < 5; i++) {
+                x.add(i, i, i);
+                if (i != 1 && i != 3) {
+                    x.commit();
+                }
+            }
+            x.view();
+            x.drop(0);
+            x.add(9, 9, 9);
+        });
+        for (int n : new int[] {Integer.MIN_VALUE, -1, 0, 1, 2}) {
+            twins.changesNothing("merge(" + n + ")", "0", x -> x.merge(n));
+        }
+        twins.answers("merge(3)", 4, x -> x.merge(3));
+    }
+
+    private static void mergeAtTheEndsOfN() {
+        GroupCursors x = withSegments(2, 3);
+        DUE.is("merge(least)", 0, () -> x.merge(Integer.MIN_VALUE));
+        DUE.is("merge(most)", 5, () -> x.merge(Integer.MAX_VALUE));
     }
 }

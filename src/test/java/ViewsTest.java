@@ -10,6 +10,10 @@ public final class ViewsTest {
         letGoCountsWhatItFrees();
         letGoRefuses();
         stateAndSizeRefuse();
+        letGoCountsNothingThatWasFreedBefore();
+        letGoCountsNothingThatIsLive();
+        letGoCountsNothingThatAnotherSees();
+        letGoOfOneThatIsHeldFreesNothing();
         DUE.end();
     }
 
@@ -147,5 +151,66 @@ public final class ViewsTest {
         DUE.isOutOfBounds("size(-1)", () -> x.size(-1));
         DUE.isOutOfBounds("size(1)", () -> x.size(1));
         DUE.isOutOfBounds("size(most)", () -> x.size(Integer.MAX_VALUE));
+    }
+
+    private static GroupCursors withThreeSegments() {
+        GroupCursors x = new GroupCursors();
+        for (int i = 0; i < 3; i++) {
+            x.add(i, i, i);
+            x.commit();
+        }
+        return x;
+    }
+
+    // "how many SEGMENTS are FREED by that": not those that are FREED already
+    private static void letGoCountsNothingThatWasFreedBefore() {
+        GroupCursors x = withThreeSegments();
+        x.drop(0);
+        x.view();
+        x.drop(1);
+        DUE.are("freed, kept, live", "2 1 0", 3, s -> x.segment(s, 1));
+        DUE.is("letGo", 1, () -> x.letGo(0));
+        DUE.are("freed, freed, live", "2 2 0", 3, s -> x.segment(s, 1));
+    }
+
+    private static void letGoCountsNothingThatIsLive() {
+        GroupCursors x = withThreeSegments();
+        x.view();
+        DUE.is("letGo with three live", 0, () -> x.letGo(0));
+        x.view();
+        x.drop(0);
+        x.drop(1);
+        DUE.is("letGo with one live", 2, () -> x.letGo(1));
+        x.view();
+        x.drop(2);
+        DUE.is("letGo with none live", 1, () -> x.letGo(2));
+    }
+
+    private static void letGoCountsNothingThatAnotherSees() {
+        GroupCursors x = withThreeSegments();
+        x.view();
+        x.drop(0);
+        x.view();
+        x.drop(1);
+        x.drop(2);
+        DUE.are("seen by", "1 2 2", 3, s -> x.segment(s, 2));
+        DUE.is("letGo(0): view 1 sees two of the three", 1, () -> x.letGo(0));
+        DUE.are("freed, kept, kept", "2 1 1", 3, s -> x.segment(s, 1));
+        DUE.is("letGo(1)", 2, () -> x.letGo(1));
+    }
+
+    private static void letGoOfOneThatIsHeldFreesNothing() {
+        GroupCursors x = withThreeSegments();
+        x.view();
+        x.iterator(0, 0, 0, -1);
+        x.merge(9);
+        DUE.is("letGo", 0, () -> x.letGo(0));
+        DUE.is("kept", 3, () -> x.told(4));
+        x.next(0);
+        x.next(0);
+        DUE.is("kept till the last one is given", 3, () -> x.told(4));
+        x.next(0);
+        DUE.is("kept no more", 0, () -> x.told(4));
+        DUE.is("freed", 3, () -> x.told(5));
     }
 }
