@@ -21,6 +21,7 @@ public final class CursorsTest {
         thePageIsOneForAllCursors();
         thePageOutlivesItsCursorAndView();
         takeAtTheEdgesOfWhatIsLeft();
+        takeGivesEachHitOnceWhateverComesMeanwhile();
         DUE.end();
     }
 
@@ -277,5 +278,31 @@ public final class CursorsTest {
             DUE.is("take with none left", 0, () -> x.take(reader, n));
             DUE.is("it goes on", 0, () -> x.left(reader));
         }
+    }
+
+    private static void takeGivesEachHitOnceWhateverComesMeanwhile() {
+        GroupCursors x = withObjects(7);
+        int reader = x.cursor(0, 0, 0, 1, 0, 3);
+        int other = x.cursor(0, 1, 0, 1, 0, 1000);
+        DUE.are("each once", "0 5 2 4 1 6 3", 7, i -> {
+            meanwhile(x, other, i);
+            DUE.is("take(1)", 1, () -> x.take(reader, 1));
+            return x.page(0);
+        });
+        DUE.is("and no more", 0, () -> x.take(reader, 1));
+    }
+
+    /** Calls that load other orders, move other readers and take the objects away. */
+    private static void meanwhile(GroupCursors x, int other, int i) {
+        x.hit(0, 1, 0, i);
+        x.group(0, 2, i, 0);
+        x.take(other, 2);
+        x.drop(6 - i);
+        x.add(i, -i, -i);
+        x.commit();
+        x.merge(100);
+        x.tick(3);
+        x.view();
+        x.iterator(i + 1, 2, 5, -1);
     }
 }

@@ -10,6 +10,7 @@ public final class ObjectsTest {
         dropRefusesWhatIsNotThere();
         objectTellsTheSegment();
         objectRefusesWhatIsNotThere();
+        objectsOfTheClassDoNotTouchEachOther();
         DUE.end();
     }
 
@@ -111,5 +112,24 @@ public final class ObjectsTest {
         DUE.isOutOfBounds("object(-1, 0)", () -> x.object(-1, 0));
         DUE.isOutOfBounds("object(1, 0)", () -> x.object(1, 0));
         DUE.isOutOfBounds("object(most, most)", () -> x.object(Integer.MAX_VALUE, Integer.MAX_VALUE));
+    }
+
+    private static void objectsOfTheClassDoNotTouchEachOther() {
+        GroupCursors x = new GroupCursors();
+        GroupCursors y = new GroupCursors();
+        for (int i = 0; i < 3; i++) {
+            x.add(i, i, i);
+            y.add(-i, -i, -i);
+        }
+        x.commit();
+        x.view();
+        x.take(x.cursor(0, 0, 0, 1, 0, 1), 2);
+        x.tick(7);
+        DUE.are("told of the other", "3 3 0 0 0 0 0 0 0 0 0 0", 12, y::told);
+        y.commit();
+        y.view();
+        DUE.are("hits of one", "0 1 2", 3, k -> x.hit(0, 0, 0, k));
+        DUE.are("hits of the other", "2 1 0", 3, k -> y.hit(0, 0, 0, k));
+        DUE.isOutOfBounds("page of the other", () -> y.page(0));
     }
 }

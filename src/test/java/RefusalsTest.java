@@ -47,6 +47,7 @@ public final class RefusalsTest {
         tickAtTheLastNow();
         told();
         aRefusedCallOnANewObject();
+        askingChangesNothing();
         DUE.end();
     }
 
@@ -380,5 +381,22 @@ public final class RefusalsTest {
         fresh.changesNothing("new: commit", "0", commit);
         fresh.changesNothing("new: merge", "0", x -> x.merge(Integer.MAX_VALUE));
         fresh.wrongArgument("new: tick", x -> x.tick(-1));
+    }
+
+    /** A call that only asks leaves all as it is, readers and the PAGE too. */
+    private static void askingChangesNothing() {
+        SAMPLE.changesNothing("object", "2", x -> x.object(0, 3));
+        SAMPLE.changesNothing("segment", "1", x -> x.segment(0, 1));
+        SAMPLE.changesNothing("state", "1", x -> x.state(HELD_VIEW));
+        SAMPLE.changesNothing("size", "3", x -> x.size(HELD_VIEW));
+        SAMPLE.changesNothing("hit", "0", x -> x.hit(HELD_VIEW, 1, 0, 0));
+        SAMPLE.changesNothing("place", "0", x -> x.place(HELD_VIEW, 1, 0, 0));
+        SAMPLE.changesNothing("groups", "2", x -> x.groups(HELD_VIEW));
+        SAMPLE.changesNothing("group", "20", x -> x.group(HELD_VIEW, 1, 0, 1));
+        SAMPLE.changesNothing("counted", "1", x -> x.counted(HELD_VIEW, 1, 0, 1));
+        SAMPLE.changesNothing("best", "2", x -> x.best(HELD_VIEW, 1, 0, 0, 1));
+        SAMPLE.changesNothing("page", "1", x -> x.page(1));
+        SAMPLE.changesNothing("left", "1", x -> x.left(CURSOR));
+        SAMPLE.changesNothing("told", "2", x -> x.told(11));
     }
 }
